@@ -27,6 +27,9 @@ public final class PaidFaces {
     private static final int CHANGES_MOST = 40;
     private static final int UNDO_MOST = 20;
     private static final int PRICE_MOST = 999;
+    private static final int WORTH_MOST = 999;
+    private static final int LIMIT_MOST = 999;
+    private static final int COIN_MOST = 999;
     private static final int PURSE_MOST = 9999;
 
     private static final long ERROR = Long.MIN_VALUE;
@@ -350,7 +353,7 @@ public final class PaidFaces {
     }
 
     public int give(int sitter, int coin) {
-        if (!book.isSitter(sitter) || !now.lives(sitter) || coin < 1 || coin > 999) {
+        if (!book.isSitter(sitter) || !now.lives(sitter) || coin < 1 || coin > COIN_MOST) {
             return NONE;
         }
         if (now.purse[sitter] + coin > PURSE_MOST) {
@@ -645,7 +648,37 @@ public final class PaidFaces {
             faultPlace = NONE;
             reader.start(tape, n);
             for (int k = 0; k <= TAPE_MOST && reader.token != Token.END; k++) {
-                if (!readLine()) {
+                boolean isLine;
+                switch (reader.token) {
+                    case FEATURE:
+                        isLine = readFeature();
+                        break;
+                    case SITTER:
+                        isLine = readSitter();
+                        break;
+                    case WANTS:
+                        isLine = readWants();
+                        break;
+                    case KIN:
+                        isLine = readKin();
+                        break;
+                    case TWIN:
+                        isLine = readTwin();
+                        break;
+                    case HEIR:
+                        isLine = readHeir();
+                        break;
+                    case HAIL:
+                        isLine = readHail();
+                        break;
+                    case LAW:
+                        isLine = readLaw();
+                        break;
+                    default:
+                        isLine = refuse(STRANGE);
+                        break;
+                }
+                if (!isLine) {
                     return false;
                 }
                 if (reader.token != Token.SEMICOLON) {
@@ -661,29 +694,6 @@ public final class PaidFaces {
             faultKind = kind;
             faultPlace = reader.place;
             return false;
-        }
-
-        private boolean readLine() {
-            switch (reader.token) {
-                case FEATURE:
-                    return readFeature();
-                case SITTER:
-                    return readSitter();
-                case WANTS:
-                    return readWants();
-                case KIN:
-                    return readKin();
-                case TWIN:
-                    return readTwin();
-                case HEIR:
-                    return readHeir();
-                case HAIL:
-                    return readHail();
-                case LAW:
-                    return readLaw();
-                default:
-                    return refuse(STRANGE);
-            }
         }
 
         private boolean readFeature() {
@@ -771,11 +781,11 @@ public final class PaidFaces {
                 return refuse(TOO_MUCH);
             }
             int sitter = nextSitter();
-            if (sitter == NONE) {
+            if (!book.isSitter(sitter)) {
                 return false;
             }
             int feature = nextFeature();
-            if (feature == NONE) {
+            if (!book.isFeature(feature)) {
                 return false;
             }
             if (book.pieceOf(sitter, feature) != NONE) {
@@ -795,18 +805,18 @@ public final class PaidFaces {
                 return refuse(TOO_MUCH);
             }
             int one = nextSitter();
-            if (one == NONE) {
+            if (!book.isSitter(one)) {
                 return false;
             }
             int other = nextSitter();
-            if (other == NONE) {
+            if (!book.isSitter(other)) {
                 return false;
             }
             if (one == other) {
                 return refuse(ONESELF);
             }
             int feature = nextFeature();
-            if (feature == NONE) {
+            if (!book.isFeature(feature)) {
                 return false;
             }
             book.addKin(one, other, feature);
@@ -819,14 +829,14 @@ public final class PaidFaces {
                 return refuse(TOO_MUCH);
             }
             int one = nextSitter();
-            if (one == NONE) {
+            if (!book.isSitter(one)) {
                 return false;
             }
             if (book.twin[one] != NONE) {
                 return refuse(TOLD_ALREADY);
             }
             int other = nextSitter();
-            if (other == NONE) {
+            if (!book.isSitter(other)) {
                 return false;
             }
             if (book.twin[other] != NONE) {
@@ -844,14 +854,14 @@ public final class PaidFaces {
 
         private boolean readHeir() {
             int one = nextSitter();
-            if (one == NONE) {
+            if (!book.isSitter(one)) {
                 return false;
             }
             if (book.heir[one] != NONE) {
                 return refuse(TOLD_ALREADY);
             }
             int other = nextSitter();
-            if (other == NONE) {
+            if (!book.isSitter(other)) {
                 return false;
             }
             if (one == other) {
@@ -1319,7 +1329,7 @@ public final class PaidFaces {
 
         private int limitOf(int p, int bidder) {
             long bid = lawOf(BID, p, bidder);
-            long limit = bid == ERROR ? book.baseOf(p) : Math.max(0, Math.min(PRICE_MOST, bid));
+            long limit = bid == ERROR ? book.baseOf(p) : Math.max(0, Math.min(LIMIT_MOST, bid));
             return (int) Math.min(limit, purse[bidder]);
         }
 
@@ -1466,6 +1476,7 @@ public final class PaidFaces {
         private int hungSum;
         private int hungStrokes;
         private int hungPieces;
+        private final int[] candidate = new int[PIECES_MOST];
         private final int[] worth = new int[PIECES_MOST];
         private final int[] need = new int[PIECES_MOST];
 
@@ -1561,39 +1572,38 @@ public final class PaidFaces {
             for (int d = s.day; d < s.day + n && d < DAYS_MOST; d++) {
                 room += s.book.isHail(d) ? 0 : 1;
             }
-            int pieces = s.book.pieces;
-            int open = 0;
-            for (int p = 0; p < pieces; p++) {
-                worth[p] = (int) Math.max(0, Math.min(PRICE_MOST, s.pickOf(p)));
-                need[p] = s.book.sizeOf(p) - s.strokes[p];
-                open |= isPaintable(s, p, AS_TOLD, 0) ? 1 << p : 0;
+            int many = 0;
+            for (int p = 0; p < s.book.pieces; p++) {
+                if (isPaintable(s, p, AS_TOLD, 0)) {
+                    candidate[many] = p;
+                    worth[many] = (int) Math.max(0, Math.min(WORTH_MOST, s.pickOf(p)));
+                    need[many] = s.book.sizeOf(p) - s.strokes[p];
+                    many++;
+                }
             }
             hungSum = NONE;
-            // The first PIECE is the highest bit: counting down, what comes first wins among equals.
-            for (int set = (1 << pieces) - 1; set >= 0; set--) {
-                weigh(set, pieces, open, room);
+            // The first one is the highest bit: counting down, what comes first wins among equals.
+            for (int set = (1 << many) - 1; set >= 0; set--) {
+                weigh(set, many, room);
             }
         }
 
-        /** Takes the set of PIECES if it can be done and is better than the best so far. */
-        private void weigh(int set, int pieces, int open, int room) {
-            int bits = 0;
+        /** Takes the set if there is room for it and it is better than the best so far. */
+        private void weigh(int set, int many, int room) {
+            int pieces = 0;
             int sum = 0;
             int strokes = 0;
-            for (int p = 0; p < pieces; p++) {
-                if ((set >> pieces - 1 - p & 1) != 0) {
-                    bits |= 1 << p;
-                    sum += worth[p];
-                    strokes += need[p];
+            for (int k = 0; k < many; k++) {
+                if ((set >> many - 1 - k & 1) != 0) {
+                    pieces |= 1 << candidate[k];
+                    sum += worth[k];
+                    strokes += need[k];
                 }
             }
-            if ((bits & ~open) != 0 || strokes > room) {
-                return;
-            }
-            if (sum > hungSum || sum == hungSum && strokes < hungStrokes) {
+            if (strokes <= room && (sum > hungSum || sum == hungSum && strokes < hungStrokes)) {
                 hungSum = sum;
                 hungStrokes = strokes;
-                hungPieces = bits;
+                hungPieces = pieces;
             }
         }
     }
@@ -1611,7 +1621,7 @@ public final class PaidFaces {
                 limit[b] = bids ? s.limitOf(piece, b) : 0;
             }
             winner = NOBODY;
-            for (round = 1; round <= PRICE_MOST + 1; round++) {
+            for (round = 1; round <= LIMIT_MOST + 1; round++) {
                 int staying = 0;
                 int first = NOBODY;
                 for (int b = SITTERS_MOST - 1; b >= 0; b--) {

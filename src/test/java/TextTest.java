@@ -14,6 +14,7 @@ public final class TextTest {
         oneself();
         terms();
         whatStays();
+        toldAnew();
         names();
         Check.end();
     }
@@ -254,6 +255,49 @@ public final class TextTest {
         Check.due("no IMAGE", x.back(), -1);
         Check.due("log(0, 0)", x.log(0, 0), -1);
         Check.due("the painter's coin", x.count(9), 0);
+    }
+
+    /** A text takes nothing over from those ahead of it, whether they stood or not. */
+    private static void toldAnew() {
+        String all = "feature a 1 1;feature b 1 1;feature c 1 1;feature d 1 1;feature e 1 1;"
+            + "sitter a 9 1;sitter b 8 1;sitter c 7 1;sitter d 6 1;sitter e 5 1;wants a a 0;wants b b 9;"
+            + "kin a b a;kin a b b;kin a b c;twin a b;twin c d;heir a b;hail 0 1;law price 1+1;law pick not 0;law bid (3);";
+        String spent = "law pick 1" + "+1".repeat(31) + ";";
+        String[] ahead = {all, all + "x", spent, spent + "x", "law pick ((((((((1", "law pick 1+1*(", "hail 2 x"};
+        PaidFaces x = new PaidFaces();
+        for (String one : ahead) {
+            for (int k = 0; k < 3; k++) {
+                Check.due("text ahead", Check.tell(x, one) > 0, one.endsWith(";"));
+                x.days(3);
+                x.forge(1);
+                x.dies(1);
+                x.dies(0);
+            }
+            Check.due("all of it again", Check.tell(x, all), 22);
+            Check.due("count(4)", x.count(4), 6);
+            Check.due("count(3)", x.count(3), 3);
+            Check.due("count(9)", x.count(9), 0);
+            Check.due("count(10)", x.count(10), 35);
+            Check.due("count(11)", x.count(11), 0);
+            Check.due("living", Check.look(x, 0, 1), 1);
+            Check.due("owner", x.piece(1, 7), -1);
+            Check.due("owner", x.owner(1, 0), -2);
+            Check.due("PAID", x.piece(1, 3), 0);
+            Check.due("STROKES", x.piece(1, 4), 0);
+            Check.due("not LAPSED", x.piece(0, 6), 0);
+            Check.due("spent anew", Check.tell(x, spent), 1);
+            Check.due("no hail", Check.tell(x, HEAD + "wants s f 5;law price 1;"), 6);
+            Check.due("no kin", x.count(3), 0);
+            Check.due("no twin", Check.look(x, 0, 4), -1);
+            Check.due("no heir", Check.look(x, 0, 5), -1);
+            Check.due("no bid", x.law(2, 0, 0), Long.MIN_VALUE);
+            x.days(1);
+            Check.due("painted on 0", x.log(0, 1), 0);
+            Check.due("nothing", Check.tell(x, ""), 0);
+            for (int what = 0; what <= 11; what++) {
+                Check.due("nothing: count(" + what + ")", x.count(what), 0);
+            }
+        }
     }
 
     private static void names() {
