@@ -238,7 +238,13 @@ public final class DaysTest {
         Check.due("a's twin pays 2, 1, then 0 of 1", x.tried(1, 0, 9), 0);
         Check.due("b pays nothing: a pays 2, 1, 1", x.tried(1, 1, 2), 0);
         Check.due("b pays nothing: a pays 2, 1, 1", x.tried(1, 1, 3), 1);
-        x = Check.told("feature f 4 1;sitter a 9 8;sitter b 9 0;wants a f 9;twin a b;law price 2;law pick paid;");
-        Check.due("by the twin's half alone", x.tried(1, 0, 2), 0);
+        // The price sinks with what is PAID: the twin's half alone, 2 of 4, makes it PAID UP.
+        x = Check.told("feature f 4 1;sitter a 9 4;sitter b 9 0;wants a f 9;twin a b;law price 4-paid;");
+        Check.due("by the twin's half alone", x.tried(1, 0, 1), 1);
+        Check.due("by the other half alone", x.tried(1, 1, 1), 1);
+        // A FEATURE that isn't painted is paid all the same: nothing is left for g.
+        x = Check.told("feature f 5 1;feature g 5 1;sitter a 5 5;wants a f 9;wants a g 9;");
+        Check.due("f isn't painted", x.tried(2, 0, 9), 0);
+        Check.due("g isn't painted", x.tried(2, 1, 9), 1);
     }
 }

@@ -76,6 +76,11 @@ public final class PaintTest {
         x = Check.told("feature a 96 5;sitter s 99 1;wants s a 99;hail 99;");
         x.days(96);
         gallery("hail on 99", x, 100, 0, 0, 0);
+        // PAID UP on 0, when there is hail, and on 1 there is, too: what could be painted is painted from 2 on.
+        x = Check.told("feature a 1 1;sitter s 99 1;wants s a 99;hail 0 1;");
+        x.days(1);
+        gallery("hail now", x, 1, 0, 0, 0);
+        gallery("hail now", x, 2, 1, 1, 1);
         x = Check.told("feature a 2 3;sitter s 99 1;wants s a 99;hail 1;");
         x.days(2);
         gallery("in 2", x, 2, 0, 0, 0);
@@ -358,6 +363,18 @@ public final class PaintTest {
         }
         Check.due("room again", x.sell(0), 1);
         Check.due("the 40th", x.owner(0, 39), 1);
+        // LEFT OVER is no change that is kept: 1, 37 sales, a death, a MATCH, one sale more.
+        x = Check.told("feature f 1 1;sitter a 99 0;sitter b 99 0;sitter c 99 0;wants a f 99;law bid 2;");
+        x.forge(0);
+        for (int k = 0; k < 37; k++) {
+            Check.due("sell", x.sell(0), 2);
+        }
+        x.dies(x.piece(0, 7));
+        Check.due("LEFT OVER", x.piece(0, 7), -2);
+        Check.due("adopt", x.adopt(), 1);
+        Check.due("sell", x.sell(0) > 0, true);
+        Check.due("the 40th", x.owner(0, 39), x.piece(0, 7));
+        Check.due("no 41st", x.owner(0, 40), -2);
     }
 
     private static void gifts() {
