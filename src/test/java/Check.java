@@ -1,18 +1,62 @@
-/** What the tests share: due answers, and texts fed as a tape. */
+import java.io.IOException;
+import java.nio.file.Files;
+import java.nio.file.Path;
+
+/** What the tests share: due answers, texts fed as a tape, and the document's sentences that they stand for. */
 final class Check {
+    private static final Path DOCUMENT = Path.of("../shared/DOC.md");
     private static int wrong = 0;
     private static int asked = 0;
+    private static int sentences = 0;
+    private static int askedAhead = 0;
+    private static String sentence = "";
+    private static String document = null;
     static final int INDEX = 1_000_001;
     static final int ELEMENT = 1_000_002;
 
     private Check() {
     }
 
+    /** From here on the answers stand for this sentence, told in the document's own words. */
+    static void says(String words) {
+        closeSentence();
+        sentence = words;
+        sentences++;
+        askedAhead = asked;
+        if (!document().isEmpty() && !document().contains(plain(words))) {
+            wrong++;
+            System.out.println("the document doesn't say: " + words);
+        }
+    }
+
+    private static void closeSentence() {
+        if (!sentence.isEmpty() && asked == askedAhead) {
+            wrong++;
+            System.out.println("nothing is asked of: " + sentence);
+        }
+    }
+
+    private static String document() {
+        if (document == null) {
+            try {
+                document = Files.exists(DOCUMENT) ? plain(Files.readString(DOCUMENT)) : "";
+            } catch (IOException e) {
+                document = "";
+            }
+        }
+        return document;
+    }
+
+    private static String plain(String words) {
+        return words.replaceAll("\\s+", " ");
+    }
+
     static void due(String call, long got, long want) {
         asked++;
         if (got != want) {
             wrong++;
-            System.out.println(call + " answered " + got + ", due is " + want);
+            System.out.println((sentence.isEmpty() ? "" : "\"" + sentence + "\": ")
+                + call + " answered " + got + ", due is " + want);
         }
     }
 
@@ -84,7 +128,9 @@ final class Check {
     }
 
     static void end() {
-        System.out.println(wrong == 0 ? "all " + asked + " answers are as due" : wrong + " answers are not as due");
+        closeSentence();
+        String of = sentences == 0 ? "" : " of " + sentences + " sentences";
+        System.out.println(wrong == 0 ? "all " + asked + " answers" + of + " are as due" : wrong + " answers are not as due");
         if (wrong != 0) {
             System.exit(1);
         }
