@@ -581,6 +581,14 @@ public final class DayEdgesTest {
         Check.due("d shares none", Check.look(x, 3, 2), 4);
         x.dies(0);
         Check.due("that of dead KIN", Check.look(x, 1, 2), 1);
+        // The first and the second of KIN, whichever of them wants it, and none between.
+        x = told("feature f 9 1;feature g 9 1;sitter a 0 0;sitter b 0 0;sitter c 0 0;wants c f 99;wants b g 99;kin b c f;kin b c g;");
+        x.forge(0);
+        x.forge(1);
+        int[] faces = {0, 3, 3};
+        for (int s = 0; s < 3; s++) {
+            Check.due("LOOK of " + s, Check.look(x, s, 2), faces[s]);
+        }
         x = told("feature f 9 1;sitter a 0 0;sitter b 0 0;wants a f 99;twin a b;heir a b;");
         x.forge(0);
         Check.due("twins and heirs share none", Check.look(x, 1, 2), 0);

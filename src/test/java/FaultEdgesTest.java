@@ -10,8 +10,10 @@ public final class FaultEdgesTest {
     public static void main(String[] args) {
         firstAlong();
         leastOfOnePlace();
+        withItsPlace();
         strange();
         strangeWords();
+        cannotStandThere();
         moreMustCome();
         beyondWhatIsSaid();
         tooMany();
@@ -31,6 +33,7 @@ public final class FaultEdgesTest {
         fullTape();
         firstBytes();
         begunAnew();
+        nothingLeftBehind();
         howManyLines();
         allElseStays();
         notSoMany();
@@ -65,9 +68,6 @@ public final class FaultEdgesTest {
         at(2, "hail 1 ", "100 x;");
         at(1, "hail 1 ", "x 100;");
         at(2, FIVE, "sitter a 1000 1;");
-        // The place is told in bytes from 0 on, blanks too.
-        at(1, " \n\n ", "!");
-        at(2, "\n\nfeature   f\n", "0 1;");
     }
 
     private static void leastOfOnePlace() {
@@ -91,6 +91,15 @@ public final class FaultEdgesTest {
         at(2, "hail 1 2 3 4 5 6 7 8 9 10 11 12 ", "100;");
         at(1, "feature ", "base 1 1;");
         at(1, TWO + "wants ", "law f 1;");
+    }
+
+    private static void withItsPlace() {
+        Check.says("FAULTS, the first along the text (of one place the least), with its place:");
+        at(1, "", "!");
+        at(1, " \n\n ", "!");
+        at(2, "\n\nfeature   f\n", "0 1;");
+        at(2, "feature f 1 1; feature g ", "000100 1;");
+        at(1, " ".repeat(699), "!");
     }
 
     private static void strange() {
@@ -123,6 +132,88 @@ public final class FaultEdgesTest {
         // One of 7 letters that is of the language is a TOKEN, one of 6 that isn't a W.
         Check.fine("feature f 1 1;");
         at(4, "feature f 1 1;wants ", "abcdef f 1;");
+    }
+
+    private static final String OPERANDS = " 1 base left purse owned day till paid ( ";
+    private static final String COMPARED = " < <= = <> >= > ";
+    private static final String JOINED = " + - * / and or ";
+    private static final String TOKENS = "feature sitter wants kin twin heir hail law price pick bid or and not base left purse owned "
+        + "day till paid x s t f g abcdefg 1 ; ( ) + - * / < <= = <> >= > ! & A";
+
+    /** Each TOKEN behind what is told: one of those that can follow, or a FAULT at it, 1 but for the words that are told otherwise. */
+    private static void follow(String ahead, String can, String otherwise) {
+        for (String token : TOKENS.split(" ")) {
+            int kind = 1;
+            for (String other : otherwise.split(" ")) {
+                kind = other.startsWith(token + ":") ? other.charAt(other.length() - 1) - '0' : kind;
+            }
+            if (!(" " + can + " ").contains(" " + token + " ")) {
+                at(kind, ahead, token);
+                at(kind, ahead, token + " 1;");
+            } else if (token.equals(";")) {
+                Check.fine(ahead + token);
+            } else {
+                at(1, ahead + token, "");
+            }
+        }
+    }
+
+    private static void cannotStandThere() {
+        Check.says("or can't stand there");
+        String lines = "feature sitter wants kin twin heir hail law";
+        follow("", lines, "");
+        follow(TWO + " ", lines, "");
+        follow("law bid 1 ; ", lines, "");
+        follow(TWO + "feature ", "x s t", "f:3 g:3");
+        follow(TWO + "feature x ", "1", "");
+        follow(TWO + "feature x 1 ", "1", "");
+        follow(TWO + "feature x 1 1 ", ";", "");
+        follow(TWO + "sitter ", "x f g", "s:3 t:3");
+        follow(TWO + "sitter x ", "1", "");
+        follow(TWO + "sitter x 1 ", "1", "");
+        follow(TWO + "sitter x 1 1 ", ";", "");
+        follow(TWO + "wants ", "s t", "x:4 f:4 g:4");
+        follow(TWO + "wants s ", "f g", "x:4 s:4 t:4");
+        follow(TWO + "wants s f ", "1", "");
+        follow(TWO + "wants s f 1 ", ";", "");
+        follow(TWO + "wants s f 1;wants s ", "g", "f:3 x:4 s:4 t:4");
+        follow(TWO + "kin ", "s t", "x:4 f:4 g:4");
+        follow(TWO + "kin s ", "t", "s:5 x:4 f:4 g:4");
+        follow(TWO + "kin s t ", "f g", "x:4 s:4 t:4");
+        follow(TWO + "kin s t f ", ";", "");
+        follow(TWO + "twin ", "s t", "x:4 f:4 g:4");
+        follow(TWO + "twin s ", "t", "s:5 x:4 f:4 g:4");
+        follow(TWO + "twin s t ", ";", "");
+        follow(TWO + "twin s t;twin ", "", "s:3 t:3 x:4 f:4 g:4");
+        follow(TWO + "heir ", "s t", "x:4 f:4 g:4");
+        follow(TWO + "heir s ", "t", "s:5 x:4 f:4 g:4");
+        follow(TWO + "heir s t ", ";", "");
+        follow(TWO + "heir s t;heir ", "t", "s:3 x:4 f:4 g:4");
+        follow(TWO + "hail ", "1", "");
+        follow(TWO + "hail 1 ", "1 ;", "");
+        follow(TWO + "law ", "price pick bid", "");
+        follow(TWO + "law pick 1;law ", "price bid", "pick:3");
+        for (String ahead : new String[] {"", "( ", "not ", "1 and ", "1 or ", "not not ", "( ( ", "1 + ( ", "1 < ( ", "not ( not ", "1 < 2 and ",
+            "1 < 2 or not ", "( 1 < 2 or "}) {
+            follow(TWO + "law bid " + ahead, OPERANDS + "not", "");
+        }
+        for (String ahead : new String[] {"1 + ", "1 - ", "1 * ", "1 / ", "1 < ", "1 <= ", "1 = ", "1 <> ", "1 >= ", "1 > ", "not 1 + ", "1 < 2 * ",
+            "( 1 ) - ", "1 and 2 < ", "( 1 < "}) {
+            follow(TWO + "law bid " + ahead, OPERANDS, "");
+        }
+        for (String ahead : new String[] {"1 ", "base ", "( 1 ) ", "1 + 2 ", "1 * 2 ", "not 1 ", "1 and 2 ", "1 or not 2 ", "1 < 2 and 3 ", "( 1 < 2 ) ",
+            "( 1 < 2 ) + 3 ", "not ( 1 = 2 ) "}) {
+            follow(TWO + "law bid " + ahead, JOINED + COMPARED + ";", "");
+        }
+        for (String ahead : new String[] {"1 < 2 ", "1 <= 2 ", "1 = 2 ", "1 <> 2 ", "1 >= 2 ", "1 > 2 ", "1 + 2 < 3 * 4 ", "not 1 < 2 ",
+            "1 or 2 < ( 3 ) ", "( 1 < 2 ) < 3 "}) {
+            follow(TWO + "law bid " + ahead, JOINED + ";", "");
+        }
+        follow(TWO + "law bid ( 1 ", JOINED + COMPARED + ")", "");
+        follow(TWO + "law bid ( 1 < 2 ", JOINED + ")", "");
+        follow(TWO + "law bid ( ( 1 ) ", JOINED + COMPARED + ")", "");
+        follow(TWO + "law bid 1 < ( 2 ", JOINED + COMPARED + ")", "");
+        follow(TWO + "law bid 1 < ( 2 ) ", JOINED + ";", "");
     }
 
     private static void moreMustCome() {
@@ -464,21 +555,27 @@ public final class FaultEdgesTest {
 
     private static void begunAnew() {
         Check.says("(DAY 0, nothing SEEN, all KNOWN, no IMAGE, nothing to undo then)");
-        String text = TWO + "wants s g 0;wants t f 50;law price 3;";
+        String text = TWO + "wants s g 0;wants t f 50;wants s f 9;law bid 1;";
         for (String anew : new String[] {text, "", "hail 1;"}) {
             PaidFaces x = Check.told(text);
+            x.forge(1);
             x.days(7);
             x.see(0, true);
             x.strike(0);
             x.known(1);
             x.keep();
             x.give(0, 5);
-            x.forge(1);
+            x.forge(2);
+            x.forge(2);
+            Check.due("sell", x.sell(2), 1);
             x.dies(1);
+            x.known(0);
+            Check.due("FORGED", x.forged(), 6);
             Check.due("text", Check.tell(x, anew) >= 0, true);
             Check.due("DAY 0", x.count(5), 0);
             Check.due("no DAY has gone by", x.log(0, 0), -1);
             Check.due("nothing SEEN", x.count(6), 0);
+            Check.due("by none", x.count(7), 0);
             Check.due("no such one to strike", x.strike(0), -1);
             Check.due("no IMAGE", x.back(), -1);
             Check.due("nothing to undo", x.count(8), 0);
@@ -488,14 +585,57 @@ public final class FaultEdgesTest {
             Check.due("none FORGED", x.forged(), 0);
             if (x.count(0) > 0) {
                 x.see(0, true);
-                Check.due("all KNOWN", x.count(7), 1);
-                Check.due("living", Check.look(x, 1, 1), 1);
-                Check.due("purse as told", Check.look(x, 0, 0), 9);
-                Check.due("not LAPSED", x.piece(0, 6), 0);
-                Check.due("nothing PAID", x.piece(1, 3), 0);
-                Check.due("no STROKES", x.piece(1, 4), 0);
-                Check.due("no OWNER", x.owner(0, 0), -2);
+                x.see(1, true);
+                Check.due("all KNOWN", x.count(7), 2);
+                Check.due("all KNOWN", x.who(), 0);
+                for (int s = 0; s < 2; s++) {
+                    Check.due("living", Check.look(x, s, 1), 1);
+                    Check.due("purse as told", Check.look(x, s, 0), 9);
+                }
+                for (int p = 0; p < 3; p++) {
+                    Check.due("open", x.piece(p, 6), 0);
+                    Check.due("nothing PAID", x.piece(p, 3), 0);
+                    Check.due("no STROKES", x.piece(p, 4), 0);
+                    Check.due("no OWNER", x.piece(p, 7), -1);
+                    Check.due("no OWNER ahead", x.owner(p, 0), -2);
+                }
             }
+        }
+    }
+
+    /** The TEXTS ahead of one leave nothing behind in it, whether they stood or not. */
+    private static void nothingLeftBehind() {
+        Check.says("The TAPE's first n bytes (it is empty then) are the TEXT (DAY 0,");
+        String much = FIVE + "feature a 1 1;feature b 1 1;feature c 1 1;feature d 1 1;feature e 1 1;wants a a 1;wants b a 2;wants a b 3;"
+            + "kin a b a;kin a b b;kin a b c;twin a b;twin c d;heir a b;heir b c;heir c d;heir d e;heir e a;"
+            + "hail 0 1 2 3 4 5 6 7 8 98 99;law price 7;law pick 1+1+1+1+1+1+1+1+1+1+1+1+1;law bid 2*(3-1)";
+        String small = TWO + "wants t g 5;wants s g 5;law bid ((((((((2+3*4))))))));law pick 1+" + "1+".repeat(24) + "1;";
+        PaidFaces x = new PaidFaces();
+        String[] ahead = {much + ";", much, much + "+", much + ")", "law bid 1+2*(3-(not not 4<5", "law bid ((((((((", "law bid not not not not",
+            "law bid 1<(2<(3<(4", "hail 1 2 3", "law pick 1" + "+1".repeat(31) + ";law bid 1;"};
+        for (String one : ahead) {
+            for (int again = 0; again < 9; again++) {
+                Check.tell(x, one);
+                x.days(again);
+            }
+            Check.due("text behind " + one, Check.tell(x, small), 8);
+            int[] counts = {2, 2, 2, 0, 56, 0, 0, 0, 0, 0, 18, 0};
+            for (int what = 0; what < counts.length; what++) {
+                Check.due("count(" + what + ")", x.count(what), counts[what]);
+            }
+            Check.due("bid", x.law(2, 0, 0), 14);
+            Check.due("pick", x.law(1, 0, 0), 26);
+            Check.due("no price", x.law(0, 0, 0), Long.MIN_VALUE);
+            for (int s = 0; s < 2; s++) {
+                Check.due("no twin", Check.look(x, s, 4), -1);
+                Check.due("no heir", Check.look(x, s, 5), -1);
+            }
+            Check.due("FEATURE a", x.named(0, Check.letters("a")), -1);
+            Check.due("SITTER a", x.named(1, Check.letters("a")), -1);
+            x.forge(0);
+            Check.due("no KIN", Check.look(x, 0, 2), 0);
+            x.days(4);
+            Check.due("no HAIL on 3: t has it, s has PAID 4", x.log(3, 1), 1);
         }
     }
 

@@ -27,6 +27,7 @@ public final class TextEdgesTest {
         sums();
         products();
         parts();
+        names();
         numbersOfTerms();
         signsOfTwo();
         features();
@@ -307,6 +308,16 @@ public final class TextEdgesTest {
         at(1, "law bid base ", "1;");
         at(1, "law bid ", ";");
         Check.fine("law bid (1 or 2 and not 3<4);");
+    }
+
+    private static void names() {
+        Check.says("NAME: base left purse owned day till paid.");
+        PaidFaces x = Check.told(TWO + "wants s f 9;law bid base+left+purse+owned+day+till+paid;");
+        Check.due("all seven", x.law(2, 0, 1), 10 + 2 + 9 + 9);
+        Check.due("count(4)", x.count(4), 13);
+        for (String word : new String[] {"bases", "bas", "lefts", "purses", "own", "owner", "days", "da", "tilll", "til", "pay", "rate", "round", "price"}) {
+            at(1, TWO + "law bid ", word + ";");
+        }
     }
 
     private static void numbersOfTerms() {

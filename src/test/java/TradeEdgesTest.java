@@ -26,6 +26,7 @@ public final class TradeEdgesTest {
         ownsOfFeature();
         asManyAsCanBe();
         leastSitter();
+        tenPieces();
         atMostUpTo99();
         noHail();
         paysNothing();
@@ -494,6 +495,56 @@ public final class TradeEdgesTest {
         // Five PIECES to four.
         matched(leftOver(features("fghij") + sitters("abcde") + "wants a f 9;wants a g 9;wants a h 9;wants a i 9;wants a j 9;", 0),
             1, 2, 3, 4, -2);
+    }
+
+    /** Ten PIECES of five SITTERS: as many of each as there can be. */
+    private static PaidFaces full(String more) {
+        StringBuilder text = new StringBuilder(features("abcde") + "sitter a 99 1;sitter b 99 1;sitter c 9 0;sitter d 9 0;sitter e 9 0;");
+        for (char f = 'a'; f <= 'e'; f++) {
+            text.append("wants a ").append(f).append(" 99;wants b ").append(f).append(" 99;");
+        }
+        return told(text.toString(), more);
+    }
+
+    private static void tenPieces() {
+        Check.says("WANTS, at most 10:");
+        PaidFaces x = full("hail 0 1 2 3 4;law bid 2;");
+        gallery(x, 100, 0, 0, 0);
+        x.days(4);
+        gallery(x, 100, 8, 8, 255);
+        x.days(1);
+        gallery(x, 100, 10, 10, 1023);
+        gallery(x, 9, 9, 9, 511);
+        gallery(x, 1, 1, 1, 1);
+        tried(x, 0, 0, 9, 9);
+        tried(x, 0, 0, 10, 10);
+        tried(x, 2, 4, 100, 8);
+        x.days(10);
+        Check.due("DONE", x.count(11), 10);
+        Check.due("the tenth on 14", x.log(14, 1), 9);
+        Check.due("LOOK", Check.look(x, 1, 2), 31);
+        Check.due("OWNED", Check.look(x, 1, 3), 5);
+        Check.due("auction", x.auction(9, 1), 2);
+        Check.due("sell", x.sell(9), 2);
+        Check.due("OWNED", Check.look(x, 0, 3), 6);
+        x.dies(0);
+        x.dies(1);
+        matched(x, 2, 3, 4, -2, -2, -2, -2, -2, -2, -2);
+        matched(x, -1, -1, -1, 2, 3, 4, -2, -2, -2, -2);
+        for (int k = 0; k < 9; k++) {
+            x.adopt();
+        }
+        Check.due("each has one of each at last", x.adopt(), 0);
+        Check.due("c", Check.look(x, 2, 3) + Check.look(x, 3, 3) + Check.look(x, 4, 3), 10);
+        // Behind it a TEXT of fewer PIECES.
+        Check.tell(x, features("fg") + sitters("abc") + "wants a f 9;wants a g 9;");
+        x.forge(0);
+        x.forge(1);
+        x.dies(0);
+        x.dies(1);
+        matched(x, 2, -2);
+        x.dies(2);
+        Check.due("to none", x.adopt(), 0);
     }
 
     private static void leastSitter() {
