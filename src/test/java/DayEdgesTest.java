@@ -406,6 +406,13 @@ public final class DayEdgesTest {
         Check.due("DONE by SIT", x.piece(0, 6), 2);
         Check.due("PRICE then", x.piece(1, 5), 51);
         Check.due("LAPSED", x.piece(1, 6), 3);
+        // Not PAID UP ahead of SIT, but behind it.
+        x = told("feature f 1 1;feature g 50 1;sitter s 9 1;wants s f 99;wants s g 1;law price 1+(owned=0)*(base-1);hail 0;");
+        x.days(2);
+        Check.due("DONE by SIT", x.piece(0, 6), 2);
+        Check.due("PAID", x.piece(1, 3), 1);
+        Check.due("PAID UP behind SIT", x.piece(1, 6), 1);
+        log(x, 2, 0, 0);
         // A DAY that has gone by isn't its DAY: PAID UP on it, and not later.
         x = told("feature f 1 9;sitter s 1 1;wants s f 0;law price 1+(day>0);");
         x.days(3);

@@ -32,6 +32,7 @@ public final class FaultEdgesTest {
         fed();
         fullTape();
         firstBytes();
+        nothingBehindN();
         begunAnew();
         nothingLeftBehind();
         howManyLines();
@@ -551,6 +552,31 @@ public final class FaultEdgesTest {
         Check.feed(x, "hail 12;");
         Check.due("cut in a number", x.text(6), -1);
         Check.due("its length", x.fault(1), 6);
+    }
+
+    /** What lies on the TAPE behind the first n bytes isn't looked at, wherever it is cut. */
+    private static void nothingBehindN() {
+        Check.says("The TAPE's first n bytes (it is empty then) are the TEXT");
+        String whole = "feature f 99 9;sitter s 10 10;sitter t 1 1;wants s f 11;hail 10 20;law bid 10<=2 or 30>=4 and not 5<>67+base;";
+        for (int n = 0; n <= whole.length(); n++) {
+            PaidFaces cut = new PaidFaces();
+            int lines = Check.tell(cut, whole.substring(0, n));
+            PaidFaces x = new PaidFaces();
+            Check.feed(x, whole);
+            Check.due("text(" + n + ")", x.text(n), lines);
+            Check.due("fault(0) of " + n, x.fault(0), cut.fault(0));
+            Check.due("fault(1) of " + n, x.fault(1), cut.fault(1));
+            // Nor what an earlier TEXT has left there.
+            Check.due("text of more", Check.tell(x, whole), 6);
+            Check.due("text again", Check.tell(x, whole.substring(0, n)), lines);
+            Check.due("fault(0) of " + n + " again", x.fault(0), cut.fault(0));
+            Check.due("fault(1) of " + n + " again", x.fault(1), cut.fault(1));
+        }
+        Check.due("cut behind <", Check.tell(new PaidFaces(), "law bid 1<"), -1);
+        PaidFaces x = new PaidFaces();
+        Check.feed(x, "law bid 1<=2;");
+        Check.due("cut within <=", x.text(10), -1);
+        Check.due("its length", x.fault(1), 10);
     }
 
     private static void begunAnew() {

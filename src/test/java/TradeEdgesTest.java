@@ -26,6 +26,7 @@ public final class TradeEdgesTest {
         ownsOfFeature();
         asManyAsCanBe();
         leastSitter();
+        noneBehindAll();
         tenPieces();
         atMostUpTo99();
         noHail();
@@ -497,6 +498,28 @@ public final class TradeEdgesTest {
             1, 2, 3, 4, -2);
     }
 
+    private static void noneBehindAll() {
+        Check.says("(none: behind all).");
+        // The first PIECE can go to none, and takes no one from the next.
+        matched(leftOver(features("fg") + sitters("ab") + "wants b f 9;wants a f 9;wants b g 9;", 1), -2, -1, 0);
+        matched(leftOver(features("fg") + sitters("abc") + "wants b f 9;wants a f 9;wants c f 9;wants b g 9;", 1), -2, -1, -1, 0);
+        // A PIECE that comes later has none, though it alone could go to the least.
+        matched(leftOver(features("fg") + sitters("ab") + "wants b f 9;wants b g 9;", 1), 0, -2);
+        // A MATCH asked for just ahead, of many PIECES, leaves nothing behind for one of fewer.
+        PaidFaces x = full("");
+        for (int p = 0; p < 10; p++) {
+            x.forge(p);
+        }
+        x.dies(0);
+        x.dies(1);
+        Check.due("of ten", x.match(0), 2);
+        Check.tell(x, features("fg") + sitters("ab") + "wants b f 9;wants b g 9;");
+        x.forge(0);
+        x.forge(1);
+        x.dies(1);
+        matched(x, 0, -2);
+    }
+
     /** Ten PIECES of five SITTERS: as many of each as there can be. */
     private static PaidFaces full(String more) {
         StringBuilder text = new StringBuilder(features("abcde") + "sitter a 99 1;sitter b 99 1;sitter c 9 0;sitter d 9 0;sitter e 9 0;");
@@ -624,6 +647,13 @@ public final class TradeEdgesTest {
         tried(x, 1, 0, 1, 0);
         x = told("feature f 4 1;sitter a 9 4;sitter b 9 0;sitter c 9 0;wants a f 0;twin a b;");
         tried(x, 1, 2, 1, 1);
+        // The twin of i pays the own half of it all the same: 2, which is PRICE by now.
+        x = told("feature f 4 1;sitter a 9 4;sitter b 9 0;wants a f 99;twin a b;law price 4-paid;");
+        tried(x, 1, 0, 1, 1);
+        tried(x, 1, 1, 1, 1);
+        x = told("feature f 3 1;sitter a 9 3;sitter b 9 0;wants a f 99;twin a b;law price 3-paid;");
+        tried(x, 1, 0, 1, 0);
+        tried(x, 1, 1, 1, 1);
         // i's purse is whole then: 2 of it would have been PAID, and price takes no more than what is left of it.
         x = told("feature f 4 1;sitter a 2 4;sitter b 9 0;wants a f 99;twin a b;law price 2+4*(purse=2);");
         tried(x, 1, 0, 5, 0);
