@@ -1212,11 +1212,13 @@ public final class PaidFaces {
         }
 
         private int baseOf(int p) {
-            return base[pieceFeature[p]];
+            int feature = isPiece(p) ? pieceFeature[p] : NONE;
+            return isFeature(feature) ? base[feature] : 0;
         }
 
         private int sizeOf(int p) {
-            return size[pieceFeature[p]];
+            int feature = isPiece(p) ? pieceFeature[p] : NONE;
+            return isFeature(feature) ? size[feature] : 0;
         }
 
         private int knots() {

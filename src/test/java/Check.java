@@ -64,6 +64,10 @@ final class Check {
         due(call, got ? 1 : 0, want ? 1 : 0);
     }
 
+    static void due(String call, String got, String want) {
+        due(call + " (" + got + " beside " + want + ")", got.equals(want), true);
+    }
+
     /** Feeds the letters and more blanks to a full twenty: how many bytes the tape has. */
     static int feed(PaidFaces x, String letters) {
         int have = 0;
