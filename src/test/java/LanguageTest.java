@@ -134,12 +134,14 @@ public final class LanguageTest {
         }
     }
 
-    /** Rules 3 to 6, 10: the words and signs that stand in the program. */
+    /** Rules 3 to 7, 10: the words and signs that stand in the program. */
     private static void words() {
         String[] refused = {"->", "::", "\\btry\\b", "\\bcatch\\b", "\\bfinally\\b", "\\bsynchronized\\b", "\\bassert\\b",
             "\\binstanceof\\b", "\\bvolatile\\b", "\\btransient\\b", "\\bnative\\b", "\\bvar\\b", "\\bsuper\\b", "\\w+Exact\\b",
             "\\bstatic \\{", "\"\" \\+", "\\+ \"\"", "@\\w+", "\\bimport (?!java\\.util\\.NoSuchElementException;)",
-            "\\bthrow (?!new (IndexOutOfBoundsException|NoSuchElementException)\\(\"\"\\);)", "\\bpackage\\b", "\\b(float|double)\\b"};
+            "\\bthrow (?!new (IndexOutOfBoundsException|NoSuchElementException)\\(\"\"\\);)", "\\bpackage\\b", "\\b(float|double)\\b",
+            // Rule 7: an index straight out of a row isn't looked at ahead of its use.
+            "\\w\\[[^\\]]*\\["};
         for (String line : lines) {
             for (String word : refused) {
                 Check.due("no " + word + " in: " + line, Pattern.compile(word).matcher(line).find(), false);
